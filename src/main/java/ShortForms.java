@@ -929,13 +929,11 @@ public final class ShortForms {
                 value = Math.min(TOO_MUCH, value * 10 + tape[at] - '0');
                 at++;
             }
-            size = at - place;
             kind = DIGITS;
         }
 
         private void takeByte(int b) {
             at++;
-            size = 1;
             value = signOf(b);
             if (value >= 0) {
                 kind = SIGN;

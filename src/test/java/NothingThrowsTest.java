@@ -7,7 +7,9 @@ public final class NothingThrowsTest {
         899, 900, 901, 999, 1000, 2147483646, 2147483647};
     static final String TEXT = "open ~ a any any 1;open ~ - any any 0;open & bcdefg start sign 999;open + a vowel end 3;"
         + "word abcdefgh noun 1;word a noun 2;word a verb 3;word aa conj 9;agree noun verb;agree noun noun;pair verb noun 999;habit 99;";
-    static final String[] PAGES = {"~~~~~~~~~~ &~ a ~ ~~ a~a~", "++ & b aa", "", "a a a a a a a a a a", "?", "&&&&&&&&&& bcdefg~h"};
+    static final String FULL = "open ~ a any any 1;".repeat(23) + "open & - any any 1;" + "word a noun 1;".repeat(20)
+        + "word abcdefgh noun 1;".repeat(4);
+    static final String[] PAGES = {"~~~~~~~~~~ ~&~&~&~&~& ~~~~~~~~~~ ~ ~ ~ ~ a a a", "~~~~~~~~~~ &~ a ~ ~~ a~a~", "++ & b aa", "", "a a a a a a a a a a", "?", "&&&&&&&&&& bcdefg~h"};
 
     static void feed(ShortForms x, String s) {
         for (int i = 0; i < s.length(); i += 20) {
@@ -20,7 +22,7 @@ public final class NothingThrowsTest {
     }
 
     static int any(Random random) {
-        return random.nextInt(3) > 0 ? random.nextInt(8) : EDGES[random.nextInt(EDGES.length)];
+        return random.nextInt(4) > 0 ? random.nextInt(random.nextBoolean() ? 8 : 25) : EDGES[random.nextInt(EDGES.length)];
     }
 
     static void call(ShortForms x, Random random) {
@@ -101,8 +103,8 @@ public final class NothingThrowsTest {
         for (int run = 0; run < 400; run++) {
             ShortForms x = new ShortForms();
             if (run % 4 > 0) {
-                feed(x, TEXT);
-                if (x.text(x.count(7)) != 12) {
+                feed(x, run % 4 > 1 ? TEXT : FULL);
+                if (x.text(x.count(7)) != (run % 4 > 1 ? 12 : 48)) {
                     throw new IllegalStateException("the text was refused at " + x.fault(1));
                 }
             }

@@ -654,10 +654,16 @@ public final class OracleTest {
     }
 
     static void compareAll(Model m, ShortForms x, Random random) {
-        compareTable(m, x);
-        compareWords(m, x);
-        comparePage(m, x);
-        compareChance(m, x, random);
+        // Whatever is asked first must not lean on what another call has made up to date.
+        int first = random.nextInt(4);
+        for (int k = 0; k < 4; k++) {
+            switch ((first + k) % 4) {
+                case 0: compareTable(m, x); break;
+                case 1: compareWords(m, x); break;
+                case 2: comparePage(m, x); break;
+                default: compareChance(m, x, random);
+            }
+        }
     }
 
     /** The object is asked far more than 512 times: what the class answers does not hang on that. */
@@ -687,7 +693,9 @@ public final class OracleTest {
             compareAll(m, x, random);
             for (int k = 0; k < (run % 10 == 0 ? 40 : 8); k++) {
                 act(m, x, random);
-                compareAll(m, x, random);
+                if (random.nextInt(3) > 0) {
+                    compareAll(m, x, random);
+                }
             }
         }
     }

@@ -73,6 +73,9 @@ public final class PromiseTest {
         }
         due("best", x.best(), 0);
         due("readings", x.readings(), 1);
+        due("fixed", x.fixed(), 0);
+        due("no image", x.back(), -1);
+        due("nothing to undo", x.undo(), -1);
         due("NONE", ShortForms.NONE, -1);
     }
 
@@ -118,6 +121,7 @@ public final class PromiseTest {
         fault("word abcdefghi noun 1;", 1, 5);
         fault("word seed noun 1;", 1, 5);
         fault("word a start 1;", 1, 7);
+        fault("word a 14 1;", 1, 7);
         fault("word a noun x;", 1, 12);
         fault("open a a any any 1;", 1, 5);
         fault("open ~ verb any any 1;", 1, 7);
@@ -168,15 +172,39 @@ public final class PromiseTest {
         due("counts", x.count(5), 0);
         due("undo", x.count(6), 0);
         due("fixed", x.fixed(), 0);
+        due("best", x.best(), 0);
+        due("readings of the page", x.readings(), 1);
+        due("opened", x.opened(0), -2);
         due("image", x.back(), -1);
         text(x, BASE);
         due("weight anew", x.open(0, 4), 5);
-        due("count anew", x.open(0, 5), 0);
-        text(x, "open ~ a any any 1;pair noun noun 5;agree noun noun;word a noun 1;word a noun 2;");
-        text(x, "open ~ a any any 1;word a noun 1;word a noun 2;");
+        due("count anew", x.open(1, 5), 0);
+        textLeavesNothingOfOlderOnes();
+    }
+
+    static void textLeavesNothingOfOlderOnes() {
+        ShortForms x = new ShortForms();
+        String two = "word a noun 1;word a noun 2;";
+        for (int k = 0; k < 3; k++) {
+            text(x, two + "pair noun noun 5;agree noun noun;pair conj conj 9;strange 3;habit 4;seed 1;");
+        }
+        for (int k = 0; k < 2; k++) {
+            text(x, two);
+            due("best, with no page yet", x.best(), 0);
+            due("readings, with no page yet", x.readings(), 1);
+            page(x, "a a");
+            due("neither agree nor pair of an older text", x.readings(), 4);
+            due("nor their costs", x.second(), 0);
+            due("strange", x.count(3), 500);
+            due("habit", x.count(4), 0);
+            // From 0 the draws are 0, 21468, 9988, ..: two of the same place, both 0, agree.
+            due("seed", x.chance(-1, 7, 1), x.chance(0, 7, 1));
+        }
+        text(x, "word a noun 1;word b noun 1;word c noun 1;seed 3;");
+        text(x, "seed 3;seed 3;");
+        text(x, "word a noun 1;word a verb 1;pair noun noun 1;pair noun verb 2;pair verb noun 3;pair verb verb 4;");
         page(x, "a a");
-        due("neither agree nor pair of an older text", x.readings(), 4);
-        due("nor their costs", x.second(), 0);
+        due("the seed of the text, 0: 0 and 21468", x.chance(-1, 1, 1), 1);
     }
 
     static void promise4() {
@@ -409,6 +437,8 @@ public final class PromiseTest {
         due("no such word", x.exact(-1, -1), -1);
         due("weigh", x.weigh(1, 8), 4);
         due("ne by the other", x.exact(0, 0), 5);
+        x = with("open ~ - any any 1;word a noun 1;", "~");
+        due("opened to nothing", x.exact(0, 0), -2);
         x = with("open ~ abc any any 1;word ab noun 1;word abcd noun 1;word abc noun 1;", "~");
         due("letters left over", x.exact(0, 0), -2);
         due("letters missing", x.exact(0, 1), -2);
@@ -739,6 +769,17 @@ public final class PromiseTest {
         due("980", x.open(0, 5), 980);
         due("seventy all the same", x.learn(), 70);
         due("999 at most", x.open(0, 5), 999);
+        x = with("open ~ a any any 1;".repeat(24), "~");
+        due("of 24", x.learn(), 1);
+        x.weigh(23, 0);
+        due("the last, learnt at once", x.learn(), 1);
+        due("it", x.open(23, 5), 1);
+        due("together", x.count(5), 2);
+        x = with(BASE, "n~");
+        due("ne is best", x.best(), 4);
+        x.weigh(2, 0);
+        due("na is best now", x.learn(), 1);
+        due("which takes 2", x.open(2, 5), 1);
         x = with(PAIRS, "a b");
         x.fix(0, 0);
         x.fix(1, 1);
@@ -938,6 +979,11 @@ public final class PromiseTest {
         }
         due("count 10", x.count(10), -1);
         due("count -1", x.count(-1), -1);
+        x.page(0);
+        page(x, "ne a& a&");
+        due("dark, asked first", x.count(8), 2);
+        page(x, "ne xx xx xx");
+        due("strange, asked first", x.count(9), 3);
     }
 
     public static void main(String[] args) {
