@@ -102,20 +102,6 @@ public final class FaultTest {
         return new int[] {0, -1, words};
     }
 
-    static void feed(ShortForms x, String s) {
-        StringBuilder b = new StringBuilder(s);
-        while (b.length() % 20 != 0) {
-            b.append('?');
-        }
-        for (int i = 0; i < b.length(); i += 20) {
-            int[] v = new int[5];
-            for (int k = 0; k < 20; k++) {
-                v[k / 4] = v[k / 4] << 8 | b.charAt(i + k) & 255;
-            }
-            x.feed(v[0], v[1], v[2], v[3], v[4]);
-        }
-    }
-
     static String line(Random random) {
         List<String> conditions = List.of("any", "start", "vowel", "cons", "end", "sign", "a", "z", "ab");
         int kind = random.nextInt(10);
@@ -197,9 +183,8 @@ public final class FaultTest {
                 if (t.length() > 900) {
                     continue;
                 }
-                feed(x, t);
                 int[] want = isText ? readText(t) : readPage(t);
-                compare((isText ? "text of " : "page of ") + t, x, isText ? x.text(t.length()) : x.page(t.length()), want);
+                compare((isText ? "text of " : "page of ") + t, x, isText ? Tape.text(x, t) : Tape.page(x, t), want);
                 seen[want[0]]++;
                 if (want[0] == 0 && isText) {
                     opens = want[3];

@@ -11,16 +11,6 @@ public final class NothingThrowsTest {
         + "word abcdefgh noun 1;".repeat(4);
     static final String[] PAGES = {"~~~~~~~~~~ ~&~&~&~&~& ~~~~~~~~~~ ~ ~ ~ ~ a a a", "~~~~~~~~~~ &~ a ~ ~~ a~a~", "++ & b aa", "", "a a a a a a a a a a", "?", "&&&&&&&&&& bcdefg~h"};
 
-    static void feed(ShortForms x, String s) {
-        for (int i = 0; i < s.length(); i += 20) {
-            int[] v = new int[5];
-            for (int k = 0; k < 20; k++) {
-                v[k / 4] = v[k / 4] << 8 | (i + k < s.length() ? s.charAt(i + k) : ' ');
-            }
-            x.feed(v[0], v[1], v[2], v[3], v[4]);
-        }
-    }
-
     static int any(Random random) {
         return random.nextInt(4) > 0 ? random.nextInt(random.nextBoolean() ? 8 : 25) : EDGES[random.nextInt(EDGES.length)];
     }
@@ -69,13 +59,13 @@ public final class NothingThrowsTest {
             case 37: x.back(); break;
             case 38: x.count(a); break;
             case 39: case 40:
-                feed(x, PAGES[random.nextInt(PAGES.length)]);
+                Tape.feed(x, PAGES[random.nextInt(PAGES.length)], ' ');
                 x.page(x.count(7));
                 break;
             case 41:
                 if (random.nextInt(10) == 0) {
                     x.text(x.count(7));
-                    feed(x, TEXT);
+                    Tape.feed(x, TEXT, ' ');
                     x.text(x.count(7));
                 }
                 break;
@@ -103,7 +93,7 @@ public final class NothingThrowsTest {
         for (int run = 0; run < 400; run++) {
             ShortForms x = new ShortForms();
             if (run % 4 > 0) {
-                feed(x, run % 4 > 1 ? TEXT : FULL);
+                Tape.feed(x, run % 4 > 1 ? TEXT : FULL, ' ');
                 if (x.text(x.count(7)) != (run % 4 > 1 ? 12 : 48)) {
                     throw new IllegalStateException("the text was refused at " + x.fault(1));
                 }

@@ -276,20 +276,6 @@ public final class OracleTest {
         }
     }
 
-    static void feed(ShortForms x, String s) {
-        StringBuilder b = new StringBuilder(s);
-        while (b.length() % 20 != 0) {
-            b.append(' ');
-        }
-        for (int i = 0; i < b.length(); i += 20) {
-            int[] v = new int[5];
-            for (int k = 0; k < 20; k++) {
-                v[k / 4] = v[k / 4] << 8 | b.charAt(i + k) & 255;
-            }
-            x.feed(v[0], v[1], v[2], v[3], v[4]);
-        }
-    }
-
     static final String[] KINDS = {"noun", "verb", "adj", "prep", "conj"};
 
     static String letters(Random random, int least, int most) {
@@ -402,8 +388,7 @@ public final class OracleTest {
             m.words[w] = word(m, random);
             b.append(m.words[w]).append(w < n - 1 || random.nextBoolean() ? "  ".substring(random.nextInt(2)) : "");
         }
-        feed(x, b.toString());
-        due("page " + b, x.page(b.length()), n);
+        due("page " + b, Tape.page(x, b.toString()), n);
         m.now = new State(m.now.weight, m.now.times, freed());
         m.past.clear();
         m.image = null;
@@ -676,8 +661,7 @@ public final class OracleTest {
         if (text.length() > 880) {
             return;
         }
-        feed(x, text);
-        due("text", x.text(text.length()), text.chars().filter(c -> c == ';').count());
+        due("text", Tape.text(x, text), text.chars().filter(c -> c == ';').count());
         compareAll(m, x, random);
         for (int e = 0; e < m.entries.size(); e++) {
             if (m.entries.get(e).letters.length() <= 4 || run % 5 == 0) {

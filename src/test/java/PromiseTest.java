@@ -13,27 +13,15 @@ public final class PromiseTest {
     }
 
     static void feed(ShortForms x, String s) {
-        StringBuilder b = new StringBuilder(s);
-        while (b.length() % 20 != 0) {
-            b.append(' ');
-        }
-        for (int i = 0; i < b.length(); i += 20) {
-            int[] v = new int[5];
-            for (int k = 0; k < 20; k++) {
-                v[k / 4] = v[k / 4] << 8 | b.charAt(i + k) & 255;
-            }
-            x.feed(v[0], v[1], v[2], v[3], v[4]);
-        }
+        Tape.feed(x, s, '?');
     }
 
     static int text(ShortForms x, String s) {
-        feed(x, s);
-        return x.text(s.length());
+        return Tape.text(x, s);
     }
 
     static int page(ShortForms x, String s) {
-        feed(x, s);
-        return x.page(s.length());
+        return Tape.page(x, s);
     }
 
     static ShortForms with(String text, String page) {
