@@ -294,6 +294,42 @@ public final class PromiseBoundaryTest {
         due("of R", y.letter(true, 0, 2), -2);
         due("of an entry", y.letter(false, 0, 1), -2);
         due("of a word", y.written(0, 1), -2);
+        olderOnes();
+    }
+
+    /** What is read is held in rows that have been used before. */
+    static void olderOnes() {
+        says("a WORD's end, where an older, longer one goes on");
+        ShortForms x = new ShortForms();
+        Tape.text(x, "open ~ b any end 1;open ~ c any vowel 1;open ~ d any sign 1;open ~ f any cons 1;word b noun 1;word q noun 1;");
+        for (String older : new String[] {"bqqq", "baaa", "b~~~", "bbbb"}) {
+            for (int k = 0; k < 3; k++) {
+                due("older page", Tape.page(x, older + " b"), 2);
+            }
+            due("fits of the second, b", x.fits(1), 1);
+            due("page", Tape.page(x, "~ q"), 2);
+            due("openings at the end", x.openings(0), 1);
+            due("least", x.leastLetter(0, 0), 'b');
+            due("exact", x.exact(0, 0), 1);
+            due("fits of the second, q", x.fits(1), 2);
+        }
+        says("an ENTRY's end, where an older, longer one goes on");
+        ShortForms y = new ShortForms();
+        for (int k = 0; k < 3; k++) {
+            Tape.text(y, "word bcd noun 1;open ^ x any any 1;");
+            Tape.page(y, "bcd bc~");
+            due("exact", y.exact(0, 0), 0);
+            due("short", y.shortest(0), 3);
+        }
+        for (int k = 0; k < 2; k++) {
+            Tape.text(y, "word bc noun 1;open # bc any d 1;open ~ d any any 1;");
+            Tape.page(y, "bcd bc~ bc");
+            due("exact of bcd", y.exact(0, 0), -2);
+            due("exact of bc~", y.exact(1, 0), -2);
+            due("exact of bc", y.exact(2, 0), 0);
+            due("short", y.shortest(0), 2);
+            due("its first byte", y.shortByte(0, 0), 'b');
+        }
     }
 
     static void openings() {
@@ -563,6 +599,15 @@ public final class PromiseBoundaryTest {
         due("without et: dark, as if not fixed", x.without(3), 509);
         due("fixed yet", x.fixed(), 9);
         due("readings", x.readings(), 1);
+        says("without() leaves all as it was, whatever is asked next");
+        ShortForms v = base();
+        due("without ne", v.without(1), 307);
+        due("takes", v.takes(1), 1);
+        due("without ne", v.without(1), 307);
+        due("by", v.exactBy(0, 0, 0), 1);
+        due("without ne", v.without(1), 307);
+        due("learn", v.learn(), 2);
+        due("of ne", v.open(1, 5), 1);
         says("without, just made anew");
         ShortForms y = base();
         y.weigh(3, 50);

@@ -161,6 +161,9 @@ public final class TermBoundaryTest {
             due(shorter, takes("word " + shorter + " noun 1;", 1).entry(0, 0), word.length() - 1);
             due(word + "s", takes("word " + word + "s noun 1;", 1).entry(0, 0), word.length() + 1);
             due("x" + word, takes("word x" + word + " noun 1;", 1).entry(0, 0), word.length() + 1);
+            String other = "x" + word.substring(1);
+            due(other, takes("word " + other + " noun 1;", 1).entry(0, 0), word.length());
+            refuses(other + " 5;", 1, 0);
         }
         for (String other : new String[] {"-", "~", "5", "B", ";"}) {
             refuses("word " + other + " noun 1;", 1, 5);
@@ -506,6 +509,14 @@ public final class TermBoundaryTest {
         due("EXACT by 2 3", x.exactBy(0, 0, 1), 3);
         x.weigh(3, 2);
         due("of one cost by 0 1 again", x.exactBy(0, 0, 0), 0);
+        says("LEAST of a WORD: its OPENING of the least COST, by what each SIGN leaves opened last");
+        String text = "open ~ b any any 1;open ^ c q any 1;open ^ d b any 1;open ^ f d any 1;open & - any any 1;open ' z cons any 0;";
+        letters(text, "q~^", "qbd");
+        letters(text, "q^", "qc");
+        letters(text, "q~^^", "qbdf");
+        letters(text, "b&^&^", "bdf");
+        letters(text, "~b^", "bbd");
+        letters(text, "q~q^'", "qbqcz");
         says("EXACT: of those by which it is just the letters of the ENTRY");
         x = with("open ~ bc any any 1;open ~ bcde any any 1;open ~ b any any 1;open ~ - any any 0;word bcd noun 1;", "~ ~d b~d bcd bc bcde");
         int[] want = {-2, 1, -2, 0, -2, -2};
@@ -516,6 +527,23 @@ public final class TermBoundaryTest {
         for (int w = 0; w < 5; w++) {
             due("exact of word " + w, x.exact(w, 0), w == 0 ? 1 : -2);
         }
+        x = with("open ~ jk any any 3;word bcdfghjk noun 1;", "bcdfghjk bcdfghjkl bcdfghjkkk bcdfghj bcdfgh~ bcdfgh~b ~bcdfghjk b");
+        for (int w = 0; w < 8; w++) {
+            due("exact of word " + w, x.exact(w, 0), w == 0 ? 0 : w == 4 ? 3 : -2);
+        }
+        x = with("open ~ b any any 0;open ~ - any any 0;word bc noun 1;", "~d ~ bc~ ~d~");
+        for (int w = 0; w < 4; w++) {
+            due("exact by weights of 0, of word " + w, x.exact(w, 0), w == 2 ? 0 : -2);
+            due("by, of word " + w, x.exactBy(w, 0, 0), w == 2 ? 1 : -2);
+        }
+    }
+
+    static void letters(String text, String page, String want) {
+        ShortForms x = with(text, page);
+        for (int i = 0; i < want.length(); i++) {
+            due("letter " + i + " of " + page, x.leastLetter(0, i), want.charAt(i));
+        }
+        due("behind them", x.leastLetter(0, want.length()), -2);
     }
 
     static void choices() {
@@ -578,6 +606,11 @@ public final class TermBoundaryTest {
         x.fix(1, 0);
         due("readings", x.readings(), 0);
         says("BEST: the one of the least COST; of several the first by places of its CHOICES, WORD by WORD (0 on)");
+        x = with("open ~ b any any 9;open ~ c any any 4;word b noun 1;word c noun 1;", "~ ~ c ~");
+        for (int w = 0; w < 4; w++) {
+            due("4 is less than 9", x.chosen(w), w == 2 ? 0 : 1);
+        }
+        due("12", x.best(), 12);
         String two = "word b noun 1;word b verb 1;word c noun 1;word c verb 1;";
         String[] texts = {two, two + "pair noun noun 1;", two + "pair noun noun 1;pair noun verb 1;",
             two + "pair noun noun 1;pair noun verb 1;pair verb noun 1;", two + "pair noun noun 2;pair noun verb 2;pair verb noun 2;pair verb verb 1;"};
@@ -692,6 +725,7 @@ public final class TermBoundaryTest {
         shortIs("word b noun 1;word bcdfghjk noun 1;word bc noun 1;word k noun 1;word bcdfghjl noun 1;", "b", "bcdfghjk", "bc", "k", "bcdfghjl");
         shortIs("word bbbbbbbb noun 1;word cbbbbbbb noun 1;word bbbbbbbc noun 1;word c noun 1;open ~ bbbb any any 1;open ^ bbbc any any 1;",
             "~~", "cbbb~", "~^", "c");
+        shortIs("word b noun 1;word bc noun 1;open ~ bc any any 1;", "b", "~");
         says("of all WORDS, with as many READINGS as there can be");
         StringBuilder b = new StringBuilder("word bcdfghjk noun 1;word bcdfghjl noun 1;");
         for (int k = 0; k < 23; k++) {
