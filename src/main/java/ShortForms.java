@@ -846,7 +846,7 @@ public final class ShortForms {
                 if (kind == AT_END) {
                     return lines;
                 }
-                if (!readLine(table)) {
+                if (!readLine(table) || !isClosed()) {
                     return NONE;
                 }
             }
@@ -964,6 +964,7 @@ public final class ShortForms {
             return b >= '0' && b <= '9';
         }
 
+        /** Takes a LINE but for the ';' at its end. */
         private boolean readLine(Table table) {
             if (kind != LANGUAGE_WORD) {
                 return refuse(FAULT_TOKEN);
@@ -1012,7 +1013,7 @@ public final class ShortForms {
             reading.weight = value;
             reading.standBetween(behind, ahead);
             table.readingCount++;
-            return isClosed();
+            return true;
         }
 
         private boolean readWord(Table table) {
@@ -1036,7 +1037,7 @@ public final class ShortForms {
             }
             entry.form = value;
             table.entryCount++;
-            return isClosed();
+            return true;
         }
 
         private boolean readKinds(Table table, boolean withPrice) {
@@ -1063,7 +1064,7 @@ public final class ShortForms {
                 }
                 table.price[pair] = value;
             }
-            return isClosed();
+            return true;
         }
 
         private boolean readSetting(Table table, int most) {
@@ -1084,7 +1085,7 @@ public final class ShortForms {
             } else {
                 table.seed = value;
             }
-            return isClosed();
+            return true;
         }
 
         private boolean copyLetters(int[] into) {

@@ -11,11 +11,16 @@ public final class NothingThrowsTest {
         + "word abcdefgh noun 1;".repeat(4);
     static final String[] PAGES = {"~~~~~~~~~~ ~&~&~&~&~& ~~~~~~~~~~ ~ ~ ~ ~ a a a", "~~~~~~~~~~ &~ a ~ ~~ a~a~", "++ & b aa", "", "a a a a a a a a a a", "?", "&&&&&&&&&& bcdefg~h"};
 
+    /** What an object is used for at most, and how many of these one step here can take. */
+    static final int CALLS = 512;
+    static final int MOST_AT_ONCE = Tape.feeds(TEXT) + 4;
+
     static int any(Random random) {
         return random.nextInt(4) > 0 ? random.nextInt(random.nextBoolean() ? 8 : 25) : EDGES[random.nextInt(EDGES.length)];
     }
 
-    static void call(ShortForms x, Random random) {
+    /** How many calls it made. */
+    static int call(ShortForms x, Random random) {
         int a = any(random);
         int b = any(random);
         int c = any(random);
@@ -59,18 +64,27 @@ public final class NothingThrowsTest {
             case 37: x.back(); break;
             case 38: x.count(a); break;
             case 39: case 40:
-                Tape.feed(x, PAGES[random.nextInt(PAGES.length)], ' ');
-                x.page(x.count(7));
-                break;
+                return readPage(x, PAGES[random.nextInt(PAGES.length)]);
             case 41:
-                if (random.nextInt(10) == 0) {
-                    x.text(x.count(7));
-                    Tape.feed(x, TEXT, ' ');
-                    x.text(x.count(7));
-                }
-                break;
-            default: openOf(x, a, b);
+                return random.nextInt(10) == 0 ? readTextAnew(x) : 0;
+            default:
+                openOf(x, a, b);
+                return 2;
         }
+        return 1;
+    }
+
+    static int readPage(ShortForms x, String page) {
+        int fed = Tape.feed(x, page, ' ');
+        x.page(x.count(7));
+        return fed + 2;
+    }
+
+    static int readTextAnew(ShortForms x) {
+        x.text(x.count(7));
+        int fed = Tape.feed(x, TEXT, ' ');
+        x.text(x.count(7));
+        return fed + 4;
     }
 
     static void openOf(ShortForms x, int a, int b) {
@@ -90,16 +104,17 @@ public final class NothingThrowsTest {
 
     public static void main(String[] args) {
         Random random = new Random(11);
-        for (int run = 0; run < 400; run++) {
+        for (int run = 0; run < 600; run++) {
             ShortForms x = new ShortForms();
+            int made = 0;
             if (run % 4 > 0) {
-                Tape.feed(x, run % 4 > 1 ? TEXT : FULL, ' ');
+                made = Tape.feed(x, run % 4 > 1 ? TEXT : FULL, ' ') + 2;
                 if (x.text(x.count(7)) != (run % 4 > 1 ? 12 : 48)) {
                     throw new IllegalStateException("the text was refused at " + x.fault(1));
                 }
             }
-            for (int k = 0; k < 512; k++) {
-                call(x, random);
+            while (made < CALLS - MOST_AT_ONCE) {
+                made += call(x, random);
             }
         }
         System.out.println("NothingThrowsTest: nothing was thrown");

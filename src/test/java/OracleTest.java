@@ -380,7 +380,7 @@ public final class OracleTest {
         return w.length() > 10 ? w.substring(0, 10) : w;
     }
 
-    static void turnPage(Model m, ShortForms x, Random random) {
+    static void turnPage(Model m, Lasting x, Random random) {
         int n = random.nextInt(20) == 0 ? 0 : 1 + random.nextInt(4);
         m.words = new String[n];
         StringBuilder b = new StringBuilder(random.nextBoolean() ? "" : " \n");
@@ -388,7 +388,8 @@ public final class OracleTest {
             m.words[w] = word(m, random);
             b.append(m.words[w]).append(w < n - 1 || random.nextBoolean() ? "  ".substring(random.nextInt(2)) : "");
         }
-        due("page " + b, Tape.page(x, b.toString()), n);
+        String page = b.toString();
+        due("page " + page, x.change(Tape.feeds(page) + 1, s -> Tape.page(s, page)), n);
         m.now = new State(m.now.weight, m.now.times, freed());
         m.past.clear();
         m.image = null;
@@ -406,30 +407,30 @@ public final class OracleTest {
         return bits;
     }
 
-    static void compareTable(Model m, ShortForms x) {
+    static void compareTable(Model m, Lasting x) {
         for (int r = 0; r < m.rules.size(); r++) {
             Rule rule = m.rules.get(r);
-            due("open 0", x.open(r, 0), rule.sign);
-            due("open 1", x.open(r, 1), rule.letters.length());
-            due("open 2", x.open(r, 2), code(rule.behind, "start"));
-            due("open 3", x.open(r, 3), code(rule.ahead, "end"));
-            due("open 4", x.open(r, 4), m.now.weight[r]);
-            due("open 5", x.open(r, 5), m.now.times[r]);
-            due("open 6", x.open(r, 6), m.weightNow(r));
+            due("open 0", x.ask().open(r, 0), rule.sign);
+            due("open 1", x.ask().open(r, 1), rule.letters.length());
+            due("open 2", x.ask().open(r, 2), code(rule.behind, "start"));
+            due("open 3", x.ask().open(r, 3), code(rule.ahead, "end"));
+            due("open 4", x.ask().open(r, 4), m.now.weight[r]);
+            due("open 5", x.ask().open(r, 5), m.now.times[r]);
+            due("open 6", x.ask().open(r, 6), m.weightNow(r));
             compareLetters("letter of reading", rule.letters, x, r, true);
         }
         for (int e = 0; e < m.entries.size(); e++) {
             Entry entry = m.entries.get(e);
-            due("entry 0", x.entry(e, 0), entry.letters.length());
-            due("entry 1", x.entry(e, 1), entry.kind);
-            due("entry 2", x.entry(e, 2), entry.form);
+            due("entry 0", x.ask().entry(e, 0), entry.letters.length());
+            due("entry 1", x.ask().entry(e, 1), entry.kind);
+            due("entry 2", x.ask().entry(e, 2), entry.form);
             compareLetters("letter of entry", entry.letters, x, e, false);
         }
         int[] counts = {m.rules.size(), m.entries.size(), m.words.length, m.strange, m.habit, sum(m.now.times), m.past.size(), 0};
         for (int what = 0; what < counts.length; what++) {
-            due("count " + what, x.count(what), counts[what]);
+            due("count " + what, x.ask().count(what), counts[what]);
         }
-        due("fixed", x.fixed(), fixedBits(m));
+        due("fixed", x.ask().fixed(), fixedBits(m));
     }
 
     static int code(String condition, String edge) {
@@ -437,54 +438,54 @@ public final class OracleTest {
         return condition.equals("sign") ? 30 : names.contains(condition) ? names.indexOf(condition) : 4 + condition.charAt(0) - 'a';
     }
 
-    static void compareLetters(String call, String letters, ShortForms x, int which, boolean of) {
+    static void compareLetters(String call, String letters, Lasting x, int which, boolean of) {
         for (int i = 0; i < letters.length(); i++) {
-            due(call, x.letter(of, which, i), letters.charAt(i));
+            due(call, x.ask().letter(of, which, i), letters.charAt(i));
         }
-        due(call + " beyond", x.letter(of, which, letters.length()), -2);
+        due(call + " beyond", x.ask().letter(of, which, letters.length()), -2);
     }
 
-    static void compareWords(Model m, ShortForms x) {
+    static void compareWords(Model m, Lasting x) {
         int dark = 0;
         int strange = 0;
         for (int w = 0; w < m.words.length; w++) {
             String word = m.words[w];
             for (int i = 0; i < word.length(); i++) {
-                due("written", x.written(w, i), word.charAt(i));
+                due("written", x.ask().written(w, i), word.charAt(i));
             }
-            due("written beyond", x.written(w, word.length()), -2);
+            due("written beyond", x.ask().written(w, word.length()), -2);
             List<Opening> all = m.openings(word, -1);
-            due("openings " + word, x.openings(w), all.size());
+            due("openings " + word, x.ask().openings(w), all.size());
             Opening least = m.first(all, null);
-            due("least " + word, x.least(w), least == null ? -2 : m.cost(least));
+            due("least " + word, x.ask().least(w), least == null ? -2 : m.cost(least));
             String letters = least == null ? "" : least.letters;
             for (int i = 0; i <= letters.length(); i++) {
-                due("leastLetter " + word, x.leastLetter(w, i), i < letters.length() ? letters.charAt(i) : -2);
+                due("leastLetter " + word, x.ask().leastLetter(w, i), i < letters.length() ? letters.charAt(i) : -2);
             }
             int fits = 0;
             for (int e = 0; e < m.entries.size(); e++) {
                 Opening o = m.first(all, m.entries.get(e).letters);
-                due("exact " + word + " " + e, x.exact(w, e), o == null ? -2 : m.cost(o));
+                due("exact " + word + " " + e, x.ask().exact(w, e), o == null ? -2 : m.cost(o));
                 int steps = o == null ? 0 : o.path.length;
                 for (int k = 0; k <= steps; k++) {
-                    due("exactBy " + word + " " + e, x.exactBy(w, e, k), k < steps ? o.path[k] : -2);
+                    due("exactBy " + word + " " + e, x.ask().exactBy(w, e, k), k < steps ? o.path[k] : -2);
                 }
                 fits |= o == null ? 0 : 1 << e;
             }
-            due("fits " + word, x.fits(w), fits);
+            due("fits " + word, x.ask().fits(w), fits);
             List<Choice> choices = m.choices(word, -1);
-            due("choices " + word, x.choices(w), choices.size());
+            due("choices " + word, x.ask().choices(w), choices.size());
             for (int p = 0; p < choices.size(); p++) {
-                due("choice 0", x.choice(w, p, 0), choices.get(p).who);
-                due("choice 1", x.choice(w, p, 1), choices.get(p).cost);
-                due("choice 2", x.choice(w, p, 2), choices.get(p).letters.length());
+                due("choice 0", x.ask().choice(w, p, 0), choices.get(p).who);
+                due("choice 1", x.ask().choice(w, p, 1), choices.get(p).cost);
+                due("choice 2", x.ask().choice(w, p, 2), choices.get(p).letters.length());
             }
-            due("choice beyond", x.choice(w, choices.size(), 0), -9);
+            due("choice beyond", x.ask().choice(w, choices.size(), 0), -9);
             dark += choices.get(0).who == -3 ? 1 : 0;
             strange += choices.get(0).who == -2 ? 1 : 0;
         }
-        due("count 8", x.count(8), dark);
-        due("count 9", x.count(9), strange);
+        due("count 8", x.ask().count(8), dark);
+        due("count 9", x.ask().count(9), strange);
     }
 
     static int least(List<Reading> all, int word, int place, boolean not) {
@@ -497,12 +498,12 @@ public final class OracleTest {
         return least;
     }
 
-    static void comparePage(Model m, ShortForms x) {
+    static void comparePage(Model m, Lasting x) {
         List<List<Choice>> choices = m.allChoices(-1);
         List<Reading> all = m.readings(choices);
         Reading best = Model.best(all);
-        due("best", x.best(), best == null ? -2 : best.cost);
-        due("readings", x.readings(), all.size());
+        due("best", x.ask().best(), best == null ? -2 : best.cost);
+        due("readings", x.ask().readings(), all.size());
         int sure = 0;
         int second = -2;
         StringBuilder opened = new StringBuilder();
@@ -512,12 +513,12 @@ public final class OracleTest {
             }
         }
         for (int w = 0; w < m.words.length; w++) {
-            due("chosen", x.chosen(w), best == null ? -2 : best.places[w]);
+            due("chosen", x.ask().chosen(w), best == null ? -2 : best.places[w]);
             for (int p = 0; p < choices.get(w).size(); p++) {
-                due("forced", x.forced(w, p), least(all, w, p, false));
+                due("forced", x.ask().forced(w, p), least(all, w, p, false));
             }
             int other = best == null ? -2 : least(all, w, best.places[w], true);
-            due("margin", x.margin(w), other < 0 ? -2 : other - best.cost);
+            due("margin", x.ask().margin(w), other < 0 ? -2 : other - best.cost);
             if (best != null) {
                 boolean one = true;
                 for (Reading r : all) {
@@ -527,20 +528,20 @@ public final class OracleTest {
                 opened.append(w > 0 ? " " : "").append(choices.get(w).get(best.places[w]).letters);
             }
         }
-        due("second", x.second(), second);
-        due("sure", x.sure(), best == null ? -2 : sure);
+        due("second", x.ask().second(), second);
+        due("sure", x.ask().sure(), best == null ? -2 : sure);
         for (int i = 0; i <= opened.length(); i++) {
-            due("opened", x.opened(i), i < opened.length() ? opened.charAt(i) : -2);
+            due("opened", x.ask().opened(i), i < opened.length() ? opened.charAt(i) : -2);
         }
         int[] takes = best == null ? null : m.takes(choices, best);
         for (int r = 0; r < m.rules.size(); r++) {
-            due("takes", x.takes(r), best == null ? -2 : takes[r]);
+            due("takes", x.ask().takes(r), best == null ? -2 : takes[r]);
             Reading without = Model.best(m.readings(m.allChoices(r)));
-            due("without " + r, x.without(r), without == null ? -2 : without.cost);
+            due("without " + r, x.ask().without(r), without == null ? -2 : without.cost);
         }
     }
 
-    static void compareChance(Model m, ShortForms x, Random random) {
+    static void compareChance(Model m, Lasting x, Random random) {
         List<List<Choice>> choices = m.allChoices(-1);
         int seed = random.nextInt(3) == 0 ? -1 : random.nextBoolean() ? random.nextInt(1000) : random.nextInt() & 0x7fffffff;
         int n = 1 + random.nextInt(random.nextInt(4) == 0 ? 100 : 10);
@@ -565,17 +566,17 @@ public final class OracleTest {
                 least = least < 0 ? cost : Math.min(least, cost);
             }
         }
-        due("chance 0", x.chance(seed, n, 0), hits);
-        due("chance 1", x.chance(seed, n, 1), least);
+        due("chance 0", x.ask().chance(seed, n, 0), hits);
+        due("chance 1", x.ask().chance(seed, n, 1), least);
     }
 
-    static void act(Model m, ShortForms x, Random random) {
+    static void act(Model m, Lasting x, Random random) {
         int r = random.nextInt(m.rules.size());
         switch (random.nextInt(9)) {
             case 0: case 1:
                 Reading best = Model.best(m.readings(m.allChoices(-1)));
                 if (best == null) {
-                    due("learn", x.learn(), -2);
+                    due("learn", x.change(1, s -> s.learn()), -2);
                     break;
                 }
                 int[] takes = m.takes(m.allChoices(-1), best);
@@ -583,16 +584,16 @@ public final class OracleTest {
                 for (int k = 0; k < takes.length; k++) {
                     m.now.times[k] = Math.min(999, m.now.times[k] + takes[k]);
                 }
-                due("learn", x.learn(), sum(takes));
+                due("learn", x.change(1, s -> s.learn()), sum(takes));
                 break;
             case 2:
-                due("forget", x.forget(), sum(m.now.times));
+                due("forget", x.change(1, s -> s.forget()), sum(m.now.times));
                 m.note();
                 Arrays.fill(m.now.times, 0);
                 break;
             case 3:
                 int v = random.nextInt(1000);
-                due("weigh", x.weigh(r, v), m.now.weight[r]);
+                due("weigh", x.change(1, s -> s.weigh(r, v)), m.now.weight[r]);
                 m.note();
                 m.now.weight[r] = v;
                 break;
@@ -601,7 +602,7 @@ public final class OracleTest {
                     int w = random.nextInt(m.words.length);
                     List<Choice> choices = m.choices(m.words[w], -1);
                     int p = random.nextInt(choices.size());
-                    due("fix", x.fix(w, p), choices.get(p).who);
+                    due("fix", x.change(1, s -> s.fix(w, p)), choices.get(p).who);
                     m.note();
                     m.now.fixed[w] = choices.get(p).who;
                 }
@@ -609,7 +610,7 @@ public final class OracleTest {
             case 6:
                 if (m.words.length > 0) {
                     int w = random.nextInt(m.words.length);
-                    due("free", x.free(w), m.now.fixed[w] == FREE ? 0 : 1);
+                    due("free", x.change(1, s -> s.free(w)), m.now.fixed[w] == FREE ? 0 : 1);
                     m.note();
                     m.now.fixed[w] = FREE;
                 }
@@ -618,27 +619,27 @@ public final class OracleTest {
                 for (int k = random.nextInt(3); k >= 0; k--) {
                     if (!m.past.isEmpty()) {
                         m.now = m.past.removeLast();
-                        due("undo", x.undo(), m.past.size());
+                        due("undo", x.change(1, s -> s.undo()), m.past.size());
                     } else {
-                        due("undo", x.undo(), -1);
+                        due("undo", x.change(1, s -> s.undo()), -1);
                     }
                 }
                 break;
             default:
                 if (random.nextInt(3) > 0) {
                     m.image = m.now.copy();
-                    due("keep", x.keep(), Integer.bitCount(fixedBits(m)));
+                    due("keep", x.change(1, s -> s.keep()), Integer.bitCount(fixedBits(m)));
                 } else if (m.image == null) {
-                    due("back", x.back(), -1);
+                    due("back", x.change(1, s -> s.back()), -1);
                 } else {
                     m.now = m.image.copy();
                     m.past.clear();
-                    due("back", x.back(), Integer.bitCount(fixedBits(m)));
+                    due("back", x.change(1, s -> s.back()), Integer.bitCount(fixedBits(m)));
                 }
         }
     }
 
-    static void compareAll(Model m, ShortForms x, Random random) {
+    static void compareAll(Model m, Lasting x, Random random) {
         // Whatever is asked first must not lean on what another call has made up to date.
         int first = random.nextInt(4);
         for (int k = 0; k < 4; k++) {
@@ -651,24 +652,23 @@ public final class OracleTest {
         }
     }
 
-    /** The object is asked far more than 512 times: what the class answers does not hang on that. */
     static void play(int run) {
         Random random = new Random(run);
         Model m = new Model();
-        ShortForms x = new ShortForms();
+        Lasting x = new Lasting();
         String text = tell(m, random);
         where = "run " + run + " of " + text;
         if (text.length() > 880) {
             return;
         }
-        due("text", Tape.text(x, text), text.chars().filter(c -> c == ';').count());
+        due("text", x.change(Tape.feeds(text) + 1, s -> Tape.text(s, text)), text.chars().filter(c -> c == ';').count());
         compareAll(m, x, random);
         for (int e = 0; e < m.entries.size(); e++) {
             if (m.entries.get(e).letters.length() <= 4 || run % 5 == 0) {
                 String s = m.shortOf(m.entries.get(e).letters);
-                due("shortest " + e, x.shortest(e), s.length());
+                due("shortest " + e, x.ask().shortest(e), s.length());
                 for (int i = 0; i <= s.length(); i++) {
-                    due("shortByte " + e, x.shortByte(e, i), i < s.length() ? s.charAt(i) : -2);
+                    due("shortByte " + e, x.ask().shortByte(e, i), i < s.length() ? s.charAt(i) : -2);
                 }
             }
         }
