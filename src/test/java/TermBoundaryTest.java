@@ -780,6 +780,15 @@ public final class TermBoundaryTest {
         due("3, 4", x.chance(1, 2, 1), 34);
         due("1, 4", x.chance(1, 3, 1), 14);
         due("all of them", x.chance(1, 100, 0), 100);
+        says("n times: WORD by WORD a CHOICE, behind two that can't stand together, too");
+        // Draws from 0: 0 3 3, 2 3 2, 0 1 2; of these the first is none.
+        x = with(tellingPairs().replaceFirst("noun 1", "noun 2") + "agree noun prep;", "b b b");
+        due("0 3 3: none", x.chance(0, 1, 0), 0);
+        due("0 3 3: none", x.chance(0, 1, 1), -2);
+        due("2 3 2", x.chance(0, 2, 0), 1);
+        due("2 3 2", x.chance(0, 2, 1), 55);
+        due("0 1 2", x.chance(0, 3, 0), 2);
+        due("0 1 2", x.chance(0, 3, 1), 13);
     }
 
     static void undone() {
